@@ -26,7 +26,6 @@ public final class HeadRows {
     private static final int MM_A_STEP = 10;
 
     private static final int MOST_SIGNS = 1000;
-    private static final int MOST_LETTERS = 8;
     private static final int MOST_DIGITS = 2;
     private static final int MOST_NESTED = 4;
     private static final int MOST_PARTINGS = 60;
@@ -373,14 +372,14 @@ public final class HeadRows {
     }
 
     private static int cellBeside(int cell, int where) {
-        return cellAt(cell % COLUMNS + across(where), cell / COLUMNS + down(where));
+        return cellAt(cell % COLUMNS + acrossBy(where), cell / COLUMNS + downBy(where));
     }
 
-    private static int across(int way) {
+    private static int acrossBy(int way) {
         return way == LEFT ? -1 : way == RIGHT ? 1 : 0;
     }
 
-    private static int down(int way) {
+    private static int downBy(int way) {
         return way == UP ? -1 : way == DOWN ? 1 : 0;
     }
 
@@ -405,7 +404,7 @@ public final class HeadRows {
         }
 
         boolean isScalp(int cell) {
-            return hairsAt(cell) != NONE;
+            return isCell(cell) && hairs[cell] != NONE;
         }
 
         boolean isEdge(int cell) {
@@ -440,6 +439,7 @@ public final class HeadRows {
         private int column;
         private int line;
         private int size;
+        private int kept;
         private boolean isOff;
 
         void begin(boolean alongCells, int firstColumn, int firstLine) {
@@ -448,14 +448,15 @@ public final class HeadRows {
             column = firstColumn;
             line = firstLine;
             size = 0;
+            kept = 0;
             isOff = false;
             arrive(NONE);
         }
 
         void go(int way, int far) {
             for (int n = 0; n < far && !isOff; n++) {
-                column += across(way);
-                line += down(way);
+                column += acrossBy(way);
+                line += downBy(way);
                 arrive(way);
             }
         }
@@ -466,24 +467,21 @@ public final class HeadRows {
             if (isOff) {
                 return;
             }
-            if (size < points.length) {
-                points[size] = wide * line + column;
-                ways[size] = way;
-            }
             size++;
-        }
-
-        int keptSize() {
-            return Math.min(size, points.length);
+            if (kept < points.length) {
+                points[kept] = wide * line + column;
+                ways[kept] = way;
+                kept++;
+            }
         }
 
         int pointAt(int n) {
-            return n >= 0 && n < keptSize() ? points[n] : NONE;
+            return n >= 0 && n < kept && n < points.length ? points[n] : NONE;
         }
 
         /** The way by which the point n was reached. */
         int wayAt(int n) {
-            return n >= 0 && n < keptSize() ? ways[n] : NONE;
+            return n >= 0 && n < kept && n < ways.length ? ways[n] : NONE;
         }
     }
 
@@ -519,7 +517,7 @@ public final class HeadRows {
         }
 
         void put(Trail trail) {
-            for (int n = 1; n < trail.keptSize(); n++) {
+            for (int n = 1; n < trail.kept; n++) {
                 int side = sideTo(trail, n);
                 if (isSide(side)) {
                     partingOf[side] = size;
@@ -542,7 +540,7 @@ public final class HeadRows {
                 return true;
             }
             Arrays.fill(sideSeen, 0);
-            for (int n = 1; n < trail.keptSize(); n++) {
+            for (int n = 1; n < trail.kept; n++) {
                 int side = sideTo(trail, n);
                 if (!isSide(side) || hasParting(side) || sideSeen[side] > 0) {
                     return true;
@@ -554,13 +552,13 @@ public final class HeadRows {
 
         private boolean hasUsedCorner(Trail trail) {
             Arrays.fill(cornerSeen, 0);
-            for (int n = 0; n < trail.keptSize(); n++) {
+            for (int n = 0; n < trail.kept; n++) {
                 int corner = trail.pointAt(n);
                 if (isCorner(corner)) {
                     cornerSeen[corner]++;
                 }
             }
-            for (int n = 1; n < trail.keptSize() - 1; n++) {
+            for (int n = 1; n < trail.kept - 1; n++) {
                 int corner = trail.pointAt(n);
                 if (isCorner(corner) && (cornerSeen[corner] > 1 || isOnParting(corner))) {
                     return true;
@@ -580,11 +578,7 @@ public final class HeadRows {
         }
 
         private boolean hasParting(int side) {
-            return isSide(side) && partingOf[side] != NONE;
-        }
-
-        private static int sideTo(Trail trail, int n) {
-            return sideFromCorner(trail.pointAt(n - 1), trail.wayAt(n));
+            return side >= 0 && side < SIDES && partingOf[side] != NONE;
         }
 
         private static boolean isSide(int side) {
@@ -595,38 +589,31 @@ public final class HeadRows {
             return corner >= 0 && corner < CORNERS;
         }
 
+        private static int sideTo(Trail trail, int n) {
+            return sideFromCorner(trail.pointAt(n - 1), trail.wayAt(n));
+        }
+
         private static int sideOfCell(int cell, int where) {
-            int column = cell % COLUMNS;
-            int line = cell / COLUMNS;
-            switch (where) {
-                case UP: return lyingSide(column, line);
-                case DOWN: return lyingSide(column, line + 1);
-                case LEFT: return standingSide(column, line);
-                case RIGHT: return standingSide(column + 1, line);
-                default: return NONE;
+            if (where == UP || where == DOWN) {
+                return where == UP ? cell : cell + COLUMNS;
             }
+            int left = LYING_SIDES + CORNERS_ACROSS * (cell / COLUMNS) + cell % COLUMNS;
+            return where == LEFT ? left : left + 1;
         }
 
         private static int sideFromCorner(int corner, int way) {
             int column = corner % CORNERS_ACROSS;
             int line = corner / CORNERS_ACROSS;
-            switch (way) {
-                case UP: return standingSide(column, line - 1);
-                case DOWN: return standingSide(column, line);
-                case LEFT: return lyingSide(column - 1, line);
-                case RIGHT: return lyingSide(column, line);
-                default: return NONE;
+            if (way == UP && line > 0) {
+                return LYING_SIDES + corner - CORNERS_ACROSS;
             }
-        }
-
-        private static int lyingSide(int column, int line) {
-            boolean inside = column >= 0 && column < COLUMNS && line >= 0 && line < CORNERS_DOWN;
-            return inside ? COLUMNS * line + column : NONE;
-        }
-
-        private static int standingSide(int column, int line) {
-            boolean inside = column >= 0 && column < CORNERS_ACROSS && line >= 0 && line < LINES;
-            return inside ? LYING_SIDES + CORNERS_ACROSS * line + column : NONE;
+            if (way == DOWN && line < LINES) {
+                return LYING_SIDES + corner;
+            }
+            if (way == LEFT && column > 0) {
+                return COLUMNS * line + column - 1;
+            }
+            return way == RIGHT && column < COLUMNS ? COLUMNS * line + column : NONE;
         }
     }
 
@@ -642,7 +629,7 @@ public final class HeadRows {
         private final int[] addedAt = new int[CELLS];
         private final int[] timesAdded = new int[MOST_ROWS];
         private final int[] knotOf = new int[MOST_ROWS];
-        private final int[] weekOf = new int[MOST_ROWS];
+        private final int[] doneIn = new int[MOST_ROWS];
         private final int[] cellSeen = new int[CELLS];
         private int size = 0;
         private int knots = 0;
@@ -683,7 +670,7 @@ public final class HeadRows {
                 return TOO_MANY;
             }
             Arrays.fill(cellSeen, 0);
-            for (int n = 0; n < trail.keptSize(); n++) {
+            for (int n = 0; n < trail.kept; n++) {
                 int reason = whyNotCell(trail, n);
                 if (reason != NONE) {
                     return reason;
@@ -716,11 +703,11 @@ public final class HeadRows {
             }
             int first = size == 0 ? 0 : firstOf[size - 1] + sizeOf[size - 1];
             firstOf[size] = first;
-            sizeOf[size] = trail.keptSize();
+            sizeOf[size] = trail.kept;
             timesAdded[size] = 0;
             knotOf[size] = NONE;
-            weekOf[size] = NONE;
-            for (int n = 0; n < trail.keptSize(); n++) {
+            doneIn[size] = NONE;
+            for (int n = 0; n < trail.kept; n++) {
                 int cell = trail.pointAt(n);
                 if (isCell(cell) && isCell(first + n)) {
                     cells[first + n] = cell;
@@ -756,12 +743,12 @@ public final class HeadRows {
 
         void putWeek(int row, int week) {
             if (has(row)) {
-                weekOf[row] = week;
+                doneIn[row] = week;
             }
         }
 
         int weekOf(int row) {
-            return has(row) ? weekOf[row] : NONE;
+            return has(row) ? doneIn[row] : NONE;
         }
 
         int knotWith(int row) {
@@ -808,7 +795,7 @@ public final class HeadRows {
         private final int[] regionOf = new int[CELLS];
         private final int[] takerOf = new int[CELLS];
         private final int[] farOf = new int[CELLS];
-        private final int[] hairsBy = new int[CELLS];
+        private final int[] hairsOf = new int[CELLS];
         private final int[] queue = new int[CELLS];
         private int queued;
         private int regions;
@@ -830,7 +817,7 @@ public final class HeadRows {
 
         /** T of a cell of a row. */
         int hairsBy(int cell) {
-            return isCell(cell) ? hairsBy[cell] : 0;
+            return isCell(cell) ? hairsOf[cell] : 0;
         }
 
         void settle() {
@@ -902,7 +889,7 @@ public final class HeadRows {
         }
 
         private void sumHair() {
-            Arrays.fill(hairsBy, 0);
+            Arrays.fill(hairsOf, 0);
             loose = 0;
             for (int cell = 0; cell < CELLS; cell++) {
                 if (takerOf[cell] == LOOSE) {
@@ -916,7 +903,7 @@ public final class HeadRows {
         private void addHair(int place, int hairs) {
             int taker = rows.cellIn(place / ROW_FACTOR, place % ROW_FACTOR);
             if (isCell(taker)) {
-                hairsBy[taker] += hairs;
+                hairsOf[taker] += hairs;
             }
         }
 
@@ -1282,13 +1269,6 @@ public final class HeadRows {
             }
         }
 
-        private void readWord() {
-            while (at < size && isLetter(signAt(at))) {
-                at++;
-            }
-            kind = at - place > MOST_LETTERS ? NOTHING : kindOfWord();
-        }
-
         private void readNumber() {
             value = 0;
             while (at < size && isDigit(signAt(at))) {
@@ -1298,37 +1278,36 @@ public final class HeadRows {
             kind = at - place > MOST_DIGITS ? NOTHING : NUMBER;
         }
 
-        private int kindOfWord() {
-            if (isWord("part")) {
-                return PART;
-            }
-            if (isWord("row")) {
-                return ROW;
-            }
-            if (isWord("again")) {
-                return AGAIN;
-            }
-            if (isWord("mirror")) {
-                return MIRROR;
+        private void readWord() {
+            while (at < size && isLetter(signAt(at))) {
+                at++;
             }
             if (isWord("up")) {
-                return UP;
+                kind = UP;
+            } else if (isWord("down")) {
+                kind = DOWN;
+            } else if (isWord("left")) {
+                kind = LEFT;
+            } else if (isWord("right")) {
+                kind = RIGHT;
+            } else if (isWord("part")) {
+                kind = PART;
+            } else if (isWord("row")) {
+                kind = ROW;
+            } else if (isWord("again")) {
+                kind = AGAIN;
+            } else {
+                kind = isWord("mirror") ? MIRROR : NOTHING;
             }
-            if (isWord("down")) {
-                return DOWN;
-            }
-            if (isWord("left")) {
-                return LEFT;
-            }
-            return isWord("right") ? RIGHT : NOTHING;
         }
 
         private boolean isWord(String word) {
-            if (word.length() != at - place) {
+            int letters = word.length();
+            if (letters != at - place || at > MOST_SIGNS) {
                 return false;
             }
-            for (int n = 0; n < word.length(); n++) {
-                if (word.charAt(n) != signAt(place + n)) {
+            for (int n = 0; n < letters; n++) {
+                if (word.charAt(n) != signs[place + n]) {
                     return false;
                 }
             }
@@ -1378,34 +1357,27 @@ public final class HeadRows {
             depth = 0;
             fault = 0;
             tape.rewind();
-            for (int n = 0; n <= MOST_SIGNS && fault == 0 && !isAtEnd(); n++) {
-                readPiece();
+            for (int n = 0; n <= MOST_SIGNS && fault == 0 && (depth > 0 || tape.kind != END); n++) {
+                switch (tape.kind) {
+                    case PART:
+                        readLine(COLUMNS, LINES);
+                        break;
+                    case ROW:
+                        readLine(COLUMNS - 1, LINES - 1);
+                        break;
+                    case AGAIN:
+                    case MIRROR:
+                        readOpening();
+                        break;
+                    case CLOSE:
+                        readClosing();
+                        break;
+                    default:
+                        tellFault(CAN_NOT_STAND);
+                        break;
+                }
             }
             return fault;
-        }
-
-        private boolean isAtEnd() {
-            return depth == 0 && tape.kind == END;
-        }
-
-        private void readPiece() {
-            switch (tape.kind) {
-                case PART:
-                    readLine(COLUMNS, LINES);
-                    break;
-                case ROW:
-                    readLine(COLUMNS - 1, LINES - 1);
-                    break;
-                case AGAIN:
-                case MIRROR:
-                    readOpening();
-                    break;
-                case CLOSE:
-                    readClosing();
-                    break;
-                default:
-                    tellFault(CAN_NOT_STAND);
-            }
         }
 
         private void readLine(int mostAcross, int mostDown) {
@@ -1462,26 +1434,30 @@ public final class HeadRows {
             }
         }
 
+        // The first fault stays, and no token behind it is read.
         private void readWay() {
-            if (tape.kind < WAYS) {
-                put(tape.kind);
-                expect(tape.kind);
-                readNumber(0, COLUMNS);
-            } else {
+            if (tape.kind >= WAYS) {
                 tellFault(CAN_NOT_STAND);
+            }
+            if (fault == 0) {
+                put(tape.kind);
+                tape.next();
+                readNumber(0, COLUMNS);
             }
         }
 
         private void readNumber(int least, int most) {
-            boolean isTold = tape.value >= least && tape.value <= most;
-            if (tape.kind == NUMBER && !isTold) {
+            if (tape.kind != NUMBER) {
+                tellFault(CAN_NOT_STAND);
+            } else if (tape.value < least || tape.value > most) {
                 tellFault(NOT_AS_TOLD);
             }
-            put(tape.value);
-            expect(NUMBER);
+            if (fault == 0) {
+                put(tape.value);
+                tape.next();
+            }
         }
 
-        // The first fault stays, and no token behind it is read.
         private void expect(int kind) {
             if (tape.kind != kind) {
                 tellFault(CAN_NOT_STAND);
@@ -1586,8 +1562,8 @@ public final class HeadRows {
             int far = script.codeAt(at + 3);
             int end = script.codeAt(at + 4);
             for (int n = 0; n < times && told == NONE; n++) {
-                int further = across + flip * n * far * HeadRows.across(way);
-                drawSteps(at + 5, end, flip, further, down + n * far * HeadRows.down(way), depth + 1);
+                int further = across + flip * n * far * acrossBy(way);
+                drawSteps(at + 5, end, flip, further, down + n * far * downBy(way), depth + 1);
             }
         }
 

@@ -1,0 +1,136 @@
+/** Promise 4 (feed), and the faults of promise 5 (draw). */
+public final class TapeTest {
+    public static void main(String[] args) {
+        signs();
+        fullTape();
+        emptied();
+        tokens();
+        places();
+        numbers();
+        nested();
+        Check.end("TapeTest");
+    }
+
+    private static void fault(String text, int kind, int place) {
+        HeadRows head = new HeadRows();
+        Check.due("fault of '" + text + "'", Check.draw(head, text), kind + 16 * place);
+        Check.due("nothing drawn by '" + text + "'", head.count(0) + head.count(1) + head.count(8), 0);
+    }
+
+    private static void fine(String text) {
+        Check.drawn(new HeadRows(), text);
+    }
+
+    private static void signs() {
+        HeadRows head = new HeadRows();
+        Check.due("nothing", head.feed(0, 0, 0), 0);
+        Check.due("9, 10, 11, 13, 31, 32, 126, 127", head.feed(0x090A0B0D1F207E7FL, 0, 0), 3);
+        Check.due("signs beyond 127", head.feed(0x8081A0AFFFFEC3BCL, -1, Long.MIN_VALUE), 3);
+        Check.due("count 11", head.count(11), 3);
+        // The order: a, b, c, of each the highest byte first.
+        HeadRows other = new HeadRows();
+        other.feed(Check.eight("row 1 2 ", 0), Check.eight("right 1 ", 0), Check.eight(";", 0));
+        Check.due("draw", other.draw(), 0);
+        Check.due("row", other.row(0, 0), 33);
+    }
+
+    private static void fullTape() {
+        HeadRows head = new HeadRows();
+        for (int n = 1; n <= 41; n++) {
+            Check.due("feed", head.feed(0x2020202020202020L, 0x2020202020202020L, 0x2020202020202020L), 24 * n);
+        }
+        Check.due("984 and 24", Check.feed(head, "               ;;;;;;;;;"), 1000);
+        Check.due("full", Check.feed(head, ";"), 1000);
+        Check.due("count 11", head.count(11), 1000);
+        Check.due("sign 999", head.draw(), 1 + 16 * 999);
+        Check.due("empty", head.count(11), 0);
+    }
+
+    private static void emptied() {
+        HeadRows head = new HeadRows();
+        Check.due("fault", Check.draw(head, "row"), 1 + 16 * 3);
+        Check.due("emptied by a fault", head.count(11), 0);
+        Check.due("can't be", Check.draw(head, "row 0 0 up 1 ;"), -1 - 5);
+        Check.due("emptied by what can't be", head.count(11), 0);
+        Check.drawn(head, "row 0 0 right 1 ;");
+        Check.due("emptied by a program", head.count(11), 0);
+        Check.due("an empty tape", head.draw(), 0);
+        Check.due("programs", head.count(8), 1);
+    }
+
+    private static void tokens() {
+        fine("");
+        fine(" \n ");
+        fine("row0 0right1;");
+        fine("row\n00\n00\nright01\n;\n");
+        fine("part 0 0down1right1;row5 5up1;");
+        fault("rows 0 0 right 1 ;", 1, 0);
+        fault("row 0 0 righ 1 ;", 1, 8);
+        fault("row 0 0 rightright 1 ;", 1, 8);
+        fault("row 0 0 Right 1 ;", 1, 8);
+        fault("row 000 0 right 1 ;", 1, 4);
+        fault("row 0 0 right 1234567890123456789012345 ;", 1, 14);
+        fault("row 0 0 right 1 : ;", 1, 16);
+        fault("row 0 0 right 1;}", 1, 16);
+        fault("row 0-0 right 1 ;", 1, 5);
+        fault("rowx0 0 right 1 ;", 1, 0);
+        fault("row+ 0 0 right 1 ;", 1, 3);
+        fault("mirro ( ) ;", 1, 0);
+        fault("partpartpartpart", 1, 0);
+    }
+
+    private static void places() {
+        fault("5", 1, 0);
+        fault("  ;", 1, 2);
+        fault("up 1 ;", 1, 0);
+        fault("row", 1, 3);
+        fault("row   ", 1, 6);
+        fault("row up 0 right 1 ;", 1, 4);
+        fault("row 0 right 1 ;", 1, 6);
+        fault("row 0 0 ;", 1, 8);
+        fault("row 0 0 right ;", 1, 14);
+        fault("row 0 0 right 1 2 ;", 1, 16);
+        fault("row 0 0 right 1", 1, 15);
+        fault("row 0 0 right 1 row 1 1 right 1 ;", 1, 16);
+        fault("row 0 0 right 1 )", 1, 16);
+        fault("again 2 ( ) ;", 1, 8);
+        fault("again up 1 ( ) ;", 1, 6);
+        fault("again 2 up 1 right 1 ( ) ;", 1, 13);
+        fault("again 2 up 1 ;", 1, 13);
+        fault("mirror ;", 1, 7);
+        fault("mirror 2 ( ) ;", 1, 7);
+        fault("mirror ( )", 1, 10);
+        fault("mirror ( ) row 0 0 right 1 ;", 1, 11);
+        fault("mirror ( ", 1, 9);
+        fault(") ;", 1, 0);
+        fault("mirror ( ) ; ) ;", 1, 13);
+        fault("mirror ( ; ) ;", 1, 9);
+    }
+
+    private static void numbers() {
+        fine("part 16 12 up 1 ;");
+        fine("row 15 11 up 1 ;");
+        fine("part 0 0 right 16 ;");
+        fine("again 9 up 16 ( ) ;");
+        fault("part 17 12 up 1 ;", 4, 5);
+        fault("part 16 13 up 1 ;", 4, 8);
+        fault("row 16 11 up 1 ;", 4, 4);
+        fault("row 15 12 up 1 ;", 4, 7);
+        fault("row 0 0 right 17 ;", 4, 14);
+        fault("row 0 0 right 1 down 99 ;", 4, 21);
+        fault("again 0 up 1 ( ) ;", 4, 6);
+        fault("again 10 up 1 ( ) ;", 4, 6);
+        fault("again 1 up 17 ( ) ;", 4, 11);
+        fault("part 17 13 nonsense", 4, 5);
+    }
+
+    private static void nested() {
+        String open = "mirror ( again 2 up 1 ( mirror ( again 1 up 0 ( ";
+        fine(open + ") ; ) ; ) ; ) ;");
+        fine(open + ") ; ) ; ) ; mirror ( ) ; ) ; mirror ( ) ;");
+        fault(open + "mirror ( ) ; ) ; ) ; ) ; ) ;", 5, open.length());
+        fault(open + "again 0 ( ) ; ) ; ) ; ) ; ) ;", 5, open.length());
+        fault(open + "part again", 1, open.length() + 5);
+        fault(open + ") ; ) ; ) ; ", 1, open.length() + 12);
+    }
+}

@@ -1149,6 +1149,9 @@ public final class HeadRows {
 
     /** The hands at work, and the plan for the rows put before them. */
     private static final class Crew {
+        // Far above the time that eight rows can take.
+        private static final int NEVER = 1000000;
+
         private final int[] speedOf = new int[MOST_HANDS];
         private final int[] loadOf = new int[MOST_HANDS];
         private final int[] rowOf = new int[MOST_IN_PLAN];
@@ -1182,7 +1185,7 @@ public final class HeadRows {
 
         void settle() {
             Arrays.fill(loadOf, 0);
-            leastTime = Integer.MAX_VALUE;
+            leastTime = NEVER;
             share(0, 0);
         }
 
@@ -1196,15 +1199,21 @@ public final class HeadRows {
             }
             for (int hand = 0; hand < MOST_HANDS; hand++) {
                 if (speedOf[hand] > 0) {
-                    int minutes = (minutesOf[n] + speedOf[hand] - 1) / speedOf[hand];
-                    loadOf[hand] += minutes;
-                    if (Math.max(time, loadOf[hand]) < leastTime) {
-                        handOf[n] = hand;
-                        share(n + 1, Math.max(time, loadOf[hand]));
-                    }
-                    loadOf[hand] -= minutes;
+                    giveTo(hand, n, time);
                 }
             }
+        }
+
+        private void giveTo(int hand, int n, int time) {
+            int speed = Math.max(1, speedOf[hand]);
+            int minutes = (minutesOf[n] + speed - 1) / speed;
+            loadOf[hand] += minutes;
+            int timeNow = Math.max(time, loadOf[hand]);
+            if (timeNow < leastTime) {
+                handOf[n] = hand;
+                share(n + 1, timeNow);
+            }
+            loadOf[hand] -= minutes;
         }
 
         int sitting() {

@@ -48,6 +48,13 @@ public final class BraidTest {
         Check.due("pull", head.pull(0), 12);
         Check.due("even", head.even(0), 5);
         Check.due("all weights", head.count(6), 22);
+        // The strands take in turn: after step 7 the one that took at 6, at 7, at 5.
+        HeadRows longer = strip(30, 1, 2, 3, 4, 5, 6, 7);
+        Check.drawn(longer, "row 3 5 right 7 ;");
+        weights(longer, 0, 5, 15, 17, 13);
+        weights(longer, 0, 6, 15, 19, 17);
+        weights(longer, 0, 7, 19, 22, 17);
+        Check.due("pull", longer.pull(0), 10);
     }
 
     private static void thirds() {
@@ -67,6 +74,11 @@ public final class BraidTest {
         Check.due("two from what is off", head.strand(0, 4, 5), 0);
         Check.due("above what is off", head.strand(1, 0, 5), 1);
         Check.due("beside it", head.strand(1, 1, 5), 0);
+        Check.drawn(head, "row 9 0 right 1 ; row 15 5 left 1 ;");
+        Check.due("at the upper end", head.strand(4, 0, 5) + head.strand(4, 1, 5), 2);
+        Check.due("at the right end", head.strand(5, 0, 5), 1);
+        Check.due("one from it", head.strand(5, 1, 5), 0);
+        Check.due("takeBack", head.takeBack(), 2);
         Check.due("at the left end", head.strand(2, 0, 5), 1);
         Check.due("one from it", head.strand(2, 1, 5), 0);
         Check.due("at the lower end", head.strand(3, 0, 5), 1);
@@ -170,6 +182,14 @@ public final class BraidTest {
         Check.due("the strand of 190", head.hangs(0), 190);
         head.weeks(2);
         Check.due("two weeks on", head.hangs(0), 196);
+        // The strand that takes at steps 3 and 6 has hair that reaches less far; 3 hairs are put to it at 3.
+        HeadRows longer = strip(9, 9, 9, 0, 9, 9, 0);
+        Check.drawn(longer, "row 3 5 right 6 ;");
+        Check.due("those of step 0", longer.hangs(0), 140);
+        longer.added(0, 3, 3, 175);
+        Check.due("put to it", longer.hangs(0), 145);
+        longer.added(0, 6, 3, 155);
+        Check.due("put to it", longer.hangs(0), 155);
     }
 
     private static void hangingLimits() {
@@ -194,6 +214,9 @@ public final class BraidTest {
         Check.drawn(head, "row 4 3 down 1 ; row 6 3 down 1 ; row 6 7 up 1 ; row 7 3 down 1 ; row 4 8 up 1 ; row 5 6 up 1 ;");
         Check.due("row -1", head.join(0, 1, -1), HeadRows.NONE);
         Check.due("row 6", head.join(6, 1, 2), HeadRows.NONE);
+        Check.due("row 6", head.join(0, 6, 2), HeadRows.NONE);
+        Check.due("row 6", head.join(0, 1, 6), HeadRows.NONE);
+        Check.due("row -1", head.join(-1, 1, 2), HeadRows.NONE);
         Check.due("two alike", head.join(0, 0, 1), HeadRows.NONE);
         Check.due("two alike", head.join(0, 1, 0), HeadRows.NONE);
         Check.due("two alike", head.join(1, 0, 0), HeadRows.NONE);
@@ -203,6 +226,7 @@ public final class BraidTest {
         Check.due("count 7", head.count(7), 0);
         Check.due("2 apart", head.join(2, 0, 1), 1);
         Check.due("joined", head.join(0, 3, 5), HeadRows.NONE);
+        Check.due("joined", head.join(3, 1, 5), HeadRows.NONE);
         Check.due("joined", head.join(3, 5, 2), HeadRows.NONE);
         Check.drawn(head, "row 8 5 left 1 ;");
         Check.due("the others", head.join(3, 5, 6), 2);

@@ -57,6 +57,10 @@ public final class DrawTest {
         Check.due("where 4", head.side(3, 4, 4), HeadRows.NONE);
         Check.due("column -1", head.side(-1, 4, 0), HeadRows.NONE);
         Check.due("line 12", head.side(3, 12, 0), HeadRows.NONE);
+        Check.drawn(head, "part 1 0 left 1 ;");
+        Check.due("the first side", head.side(0, 0, 0), 1);
+        Check.due("takeBack", head.takeBack(), 1);
+        Check.due("the first side away", head.side(0, 0, 0), 0);
         HeadRows off = new HeadRows();
         off.cell(5, 5, -1);
         Check.drawn(off, "part 5 5 right 1 ;");
@@ -83,6 +87,13 @@ public final class DrawTest {
         cannot(head, "part 4 5 right 1 up 1 ;", 4, 0);
         cannot(head, "part 7 6 left 1 down 1 ;", 4, 0);
         Check.drawn(head, "part 4 5 right 1 ; part 6 6 right 1 ;");
+        Check.drawn(head, "part 10 9 up 2 ; part 12 9 down 1 ; part 13 9 left 1 ; part 15 9 right 1 ;");
+        cannot(head, "part 9 9 right 1 down 1 ;", 4, 0);
+        cannot(head, "part 11 9 right 1 up 1 ;", 4, 0);
+        cannot(head, "part 13 8 down 2 ;", 4, 0);
+        cannot(head, "part 15 8 down 2 ;", 4, 0);
+        cannot(head, "part 9 8 right 2 ;", 4, 0);
+        Check.due("takeBack", head.takeBack(), 4);
         Check.drawn(head, "part 5 5 up 1 ; part 4 4 right 1 ;");
         cannot(head, "part 4 3 down 1 right 1 down 2 ;", 3, 0);
         Check.due("partings", head.count(0), 5);
@@ -162,6 +173,18 @@ public final class DrawTest {
         Check.due("takeBack", other.takeBack(), 1);
         Check.due("takeBack", other.takeBack(), 24);
         Check.drawn(other, "row 0 8 right 1 ;");
+        HeadRows third = new HeadRows();
+        for (int n = 0; n < 84; n++) {
+            String place = n % 12 + " " + (n < 60 ? n / 12 : 7 + (n - 60) / 12 * 2);
+            Check.drawn(third, n < 60 ? "part " + place + " down 1 ;" : "row " + place + " down 1 ;");
+        }
+        Check.due("84 programs", third.count(8), 84);
+        for (int n = 83; n >= 0; n--) {
+            Check.due("takeBack", third.takeBack(), 1);
+            Check.due("programs left", third.count(8), n);
+            Check.due("partings and rows left", third.count(0) + third.count(1), n);
+        }
+        Check.due("none is left", third.takeBack(), HeadRows.NONE);
     }
 
     private static void again() {
@@ -226,6 +249,9 @@ public final class DrawTest {
         Check.due("programs", head.count(8), 1);
         row(head, 0, 0, 1, 2, 3);
         row(head, 1);
+        Check.due("takeBack of the first row", head.takeBack(), 1);
+        Check.due("its first cell", head.look(0, 0, 2), HeadRows.NONE);
+        Check.drawn(head, "row 0 0 right 3 ;");
         Check.due("side", head.side(5, 5, 2), 0);
         Check.due("taken anew", head.taken(15, 11), 3);
         Check.drawn(head, "row 8 5 right 1 ;");

@@ -31,6 +31,11 @@ public final class NetTest {
         Check.due("regions", head.count(2), 3);
         Check.due("takeBack", head.takeBack(), 1);
         Check.due("regions", head.count(2), 2);
+        // The last cell of line 0 hangs together with the others only from below.
+        HeadRows other = new HeadRows();
+        Check.drawn(other, "part 15 0 down 11 ;");
+        Check.due("from below", other.region(15, 0), 0);
+        Check.due("regions", other.count(2), 1);
     }
 
     private static void nearest() {
@@ -129,7 +134,7 @@ public final class NetTest {
         Check.due("other hairs", head.look(2, 2, 1), 0);
         Check.due("pairs", head.count(4), 2);
         Check.drawn(head, "row 7 5 right 2 ;");
-        Check.due("of the same row", head.look(7, 5, 1), 0);
+        Check.due("of the same row", head.look(7, 5, 1) + head.look(8, 5, 1), 0);
         Check.due("of a row alone", head.look(9, 5, 1) + head.look(6, 5, 1), 2);
         Check.due("pairs", head.count(4), 3);
         Check.drawn(head, "part 10 12 up 1 right 2 down 1 ;");
@@ -138,5 +143,8 @@ public final class NetTest {
         Check.due("pairs", head.count(4), 5);
         Check.drawn(head, "part 4 12 up 1 right 2 down 1 ;");
         Check.due("loose both", head.count(4), 3);
+        Check.drawn(head, "row 8 8 up 1 ;");
+        Check.due("in the middle", head.look(7, 8, 1) + head.look(8, 7, 1), 2);
+        Check.due("pairs", head.count(4), 5);
     }
 }

@@ -44,6 +44,26 @@ public final class TapeTest {
         Check.due("count 11", head.count(11), 1000);
         Check.due("sign 999", head.draw(), 1 + 16 * 999);
         Check.due("empty", head.count(11), 0);
+        String program = "row 3 3 down 1 ;";
+        HeadRows other = new HeadRows();
+        Check.due("1000", Check.feed(other, " ".repeat(984) + program), 1000);
+        Check.due("to the last sign", other.draw(), 0);
+        Check.due("rows", other.count(1), 1);
+        Check.due("1000", Check.feed(other, " ".repeat(989) + "row 3 4 up"), 999);
+        Check.due("1000", Check.feed(other, "x;"), 1000);
+        Check.due("a word at the end", other.draw(), 1 + 16 * 997);
+        Check.feed(other, " ".repeat(990) + "row 3 4 up");
+        Check.due("a way at the end", other.draw(), 1 + 16 * 1000);
+        StringBuilder words = new StringBuilder();
+        for (int n = 0; n < 250; n++) {
+            words.append("up0;");
+        }
+        words.replace(0, 8, "part9 9 ");
+        for (int n = 11; n < 999; n += 4) {
+            words.setCharAt(n, ' ');
+        }
+        Check.due("1000", Check.feed(other, words.toString()), 1000);
+        Check.due("248 ways without a side", other.draw(), -1 - 2);
     }
 
     private static void emptied() {
@@ -74,6 +94,15 @@ public final class TapeTest {
         fault("row 0 0 right 1;}", 1, 16);
         fault("row 0-0 right 1 ;", 1, 5);
         fault("rowx0 0 right 1 ;", 1, 0);
+        fault("rowz", 1, 0);
+        fault("arow", 1, 0);
+        fault("sow 0 0 right 1 ;", 1, 0);
+        fault("cart 0 0 right 1 ;", 1, 0);
+        fault("row 0 0 ap 1 ;", 1, 8);
+        fault("row 0 0 `up 1 ;", 1, 8);
+        fault("row 0 0 up{ 1 ;", 1, 10);
+        fault("row 0 0 up /1 ;", 1, 11);
+        fault("row 0 0 up :1 ;", 1, 11);
         fault("row+ 0 0 right 1 ;", 1, 3);
         fault("mirro ( ) ;", 1, 0);
         fault("partpartpartpart", 1, 0);
@@ -88,6 +117,8 @@ public final class TapeTest {
         fault("row up 0 right 1 ;", 1, 4);
         fault("row 0 right 1 ;", 1, 6);
         fault("row 0 0 ;", 1, 8);
+        fault("row 0 0 part 1 ;", 1, 8);
+        fault("row 0 0 right 1 part ;", 1, 16);
         fault("row 0 0 right ;", 1, 14);
         fault("row 0 0 right 1 2 ;", 1, 16);
         fault("row 0 0 right 1", 1, 15);

@@ -60,6 +60,18 @@ public final class WeekTest {
             Check.due("holds -1", head.holds(-1), HeadRows.NONE);
             Check.due("holds 2", head.holds(2), HeadRows.NONE);
         }
+        HeadRows thin = pairs(1, 99);
+        Check.due("by the first step", thin.holds(0), 1);
+        // 24, 24, 23 at the first steps: a hair added later does not make the least one more.
+        HeadRows head = new HeadRows();
+        int[] hairs = {71, 0, 0, 0};
+        for (int cell = 0; cell < 192; cell++) {
+            head.cell(cell % 16, cell / 16, cell < hairs.length ? hairs[cell] : HeadRows.NONE);
+        }
+        Check.drawn(head, "row 0 0 right 3 ;");
+        Check.due("23 / 4 and one", head.holds(0), 6);
+        head.added(0, 2, 1, 20);
+        Check.due("23 at the first steps", head.holds(0), 6);
     }
 
     private static void out() {

@@ -112,6 +112,11 @@ public final class WorkTest {
             Check.due("sitting of " + cells[0] + " cells", head.plan(1), cells[1]);
         }
         Check.due("sitting of nothing", new HeadRows().plan(1), 0);
+        HeadRows odd = bald();
+        odd.cell(0, 0, 10);
+        Check.drawn(odd, "row 0 0 right 15 down 1 left 13 ;");
+        Check.due("time", odd.plan(0), 61);
+        Check.due("sitting of 61", odd.plan(1), 71);
     }
 
     private static void firstEight() {
@@ -136,6 +141,10 @@ public final class WorkTest {
         Check.due("planned 2", head.planned(2), 0);
         head.weeks(1);
         planned(head, 18, 0, 0, 0);
+        head.hands(1, 1, 1);
+        Check.due("planned 0 as it is now", head.planned(0), 0);
+        Check.due("planned 2 as it is now", head.planned(2), 2);
+        head.hands(1, 0, 0);
         Check.due("redo", head.redo(1), true);
         Check.due("rows out or never done", head.plan(2), 2);
         Check.due("planned 1", head.planned(1), HeadRows.NONE);

@@ -231,6 +231,12 @@ public final class BraidTest {
         Check.drawn(head, "row 8 5 left 1 ;");
         Check.due("the others", head.join(3, 5, 6), 2);
         Check.due("count 7", head.count(7), 2);
+        HeadRows corner = new HeadRows();
+        Check.drawn(corner, "row 1 0 left 1 ; row 1 1 left 1 ;");
+        Check.due("no such row near the corner", corner.join(0, 1, 2), HeadRows.NONE);
+        Check.due("no such row near the corner", corner.join(0, 2, 1), HeadRows.NONE);
+        Check.due("no such row near the corner", corner.join(2, 0, 1), HeadRows.NONE);
+        Check.due("no such row near the corner", corner.join(0, -1, 1), HeadRows.NONE);
     }
 
     private static void joinedHang() {

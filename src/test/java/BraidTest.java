@@ -14,30 +14,14 @@ public final class BraidTest {
         Check.end("BraidTest");
     }
 
-    /** A head of these cells alone, in line 5 from column 3 on. */
-    private static HeadRows strip(int... hairs) {
-        HeadRows head = new HeadRows();
-        for (int cell = 0; cell < 192; cell++) {
-            int n = cell - (16 * 5 + 3);
-            head.cell(cell % 16, cell / 16, n >= 0 && n < hairs.length ? hairs[n] : HeadRows.NONE);
-        }
-        return head;
-    }
-
-    private static void weights(HeadRows head, int row, int step, int left, int middle, int right) {
-        Check.due("left at " + step, head.strand(row, step, 0), left);
-        Check.due("middle at " + step, head.strand(row, step, 1), middle);
-        Check.due("right at " + step, head.strand(row, step, 2), right);
-    }
-
     private static void strands() {
-        HeadRows head = strip(7, 4, 2, 6, 3);
+        HeadRows head = Heads.strip(7, 4, 2, 6, 3);
         Check.drawn(head, "row 3 5 right 4 ;");
-        weights(head, 0, 0, 3, 2, 2);
-        weights(head, 0, 1, 2, 7, 2);
-        weights(head, 0, 2, 2, 4, 7);
-        weights(head, 0, 3, 4, 8, 7);
-        weights(head, 0, 4, 4, 10, 8);
+        Check.weights(head, 0, 0, 3, 2, 2);
+        Check.weights(head, 0, 1, 2, 7, 2);
+        Check.weights(head, 0, 2, 2, 4, 7);
+        Check.weights(head, 0, 3, 4, 8, 7);
+        Check.weights(head, 0, 4, 4, 10, 8);
         int[] t = {7, 4, 2, 6, 3};
         int[] pull = {2, 10, 10, 8, 12};
         for (int step = 0; step < 5; step++) {
@@ -49,20 +33,20 @@ public final class BraidTest {
         Check.due("even", head.even(0), 5);
         Check.due("all weights", head.count(6), 22);
         // The strands take in turn: after step 7 the one that took at 6, at 7, at 5.
-        HeadRows longer = strip(30, 1, 2, 3, 4, 5, 6, 7);
+        HeadRows longer = Heads.strip(30, 1, 2, 3, 4, 5, 6, 7);
         Check.drawn(longer, "row 3 5 right 7 ;");
-        weights(longer, 0, 5, 15, 17, 13);
-        weights(longer, 0, 6, 15, 19, 17);
-        weights(longer, 0, 7, 19, 22, 17);
+        Check.weights(longer, 0, 5, 15, 17, 13);
+        Check.weights(longer, 0, 6, 15, 19, 17);
+        Check.weights(longer, 0, 7, 19, 22, 17);
         Check.due("pull", longer.pull(0), 10);
     }
 
     private static void thirds() {
         for (int hairs = 0; hairs < 9; hairs++) {
-            HeadRows head = strip(hairs, 0);
+            HeadRows head = Heads.strip(hairs, 0);
             Check.drawn(head, "row 3 5 right 1 ;");
             int more = hairs % 3;
-            weights(head, 0, 0, hairs / 3 + (more > 0 ? 1 : 0), hairs / 3 + (more > 1 ? 1 : 0), hairs / 3);
+            Check.weights(head, 0, 0, hairs / 3 + (more > 0 ? 1 : 0), hairs / 3 + (more > 1 ? 1 : 0), hairs / 3);
         }
     }
 
@@ -105,7 +89,7 @@ public final class BraidTest {
     }
 
     private static void noneSuch() {
-        HeadRows head = strip(7, 4, 2, 6, 3);
+        HeadRows head = Heads.strip(7, 4, 2, 6, 3);
         Check.isNone("no row yet", () -> head.strand(0, 0, 0));
         Check.due("pull", head.pull(0), HeadRows.NONE);
         Check.drawn(head, "row 3 5 right 4 ;");
@@ -125,7 +109,7 @@ public final class BraidTest {
     }
 
     private static void addedHair() {
-        HeadRows head = strip(7, 4, 2, 6, 3);
+        HeadRows head = Heads.strip(7, 4, 2, 6, 3);
         Check.drawn(head, "row 3 5 right 4 ;");
         Check.due("hairs 0", head.added(0, 0, 0, 100), HeadRows.NONE);
         Check.due("hairs 100", head.added(0, 0, 100, 100), HeadRows.NONE);
@@ -135,13 +119,13 @@ public final class BraidTest {
         Check.due("step 5", head.added(0, 5, 1, 100), HeadRows.NONE);
         Check.due("count 12", head.count(12), 0);
         Check.due("added", head.added(0, 0, 5, 20), 1);
-        weights(head, 0, 0, 8, 2, 2);
-        weights(head, 0, 1, 2, 12, 2);
+        Check.weights(head, 0, 0, 8, 2, 2);
+        Check.weights(head, 0, 1, 2, 12, 2);
         Check.due("added", head.added(0, 2, 99, 2000), 2);
-        weights(head, 0, 1, 2, 12, 2);
-        weights(head, 0, 2, 2, 103, 12);
-        weights(head, 0, 3, 103, 8, 12);
-        weights(head, 0, 4, 103, 15, 8);
+        Check.weights(head, 0, 1, 2, 12, 2);
+        Check.weights(head, 0, 2, 2, 103, 12);
+        Check.weights(head, 0, 3, 103, 8, 12);
+        Check.weights(head, 0, 4, 103, 15, 8);
         Check.due("T without it", head.strand(0, 2, 3), 2);
         Check.due("even without it", head.even(0), 5);
         Check.due("hairs without it", head.count(5), 22);
@@ -162,7 +146,7 @@ public final class BraidTest {
     }
 
     private static void hanging() {
-        HeadRows head = strip(7, 4, 2, 6, 3);
+        HeadRows head = Heads.strip(7, 4, 2, 6, 3);
         Check.drawn(head, "row 3 5 right 4 ;");
         // The three: 3 at 160, 4 at 170, 3 at 200; 2 at 160, 6 at 190; 2 at 160, 2 at 180.
         Check.due("hangs", head.hangs(0), 160);
@@ -183,7 +167,7 @@ public final class BraidTest {
         head.weeks(2);
         Check.due("two weeks on", head.hangs(0), 196);
         // The strand that takes at steps 3 and 6 has hair that reaches less far; 3 hairs are put to it at 3.
-        HeadRows longer = strip(9, 9, 9, 0, 9, 9, 0);
+        HeadRows longer = Heads.strip(9, 9, 9, 0, 9, 9, 0);
         Check.drawn(longer, "row 3 5 right 6 ;");
         Check.due("those of step 0", longer.hangs(0), 140);
         longer.added(0, 3, 3, 175);
@@ -193,17 +177,17 @@ public final class BraidTest {
     }
 
     private static void hangingLimits() {
-        HeadRows head = strip(9, 9, 9, 9);
+        HeadRows head = Heads.strip(9, 9, 9, 9);
         head.length(20);
         Check.drawn(head, "row 3 5 right 3 ;");
         Check.due("20, 10, 0", head.hangs(0), 0);
-        HeadRows few = strip(8, 0);
+        HeadRows few = Heads.strip(8, 0);
         Check.drawn(few, "row 3 5 right 1 ;");
         Check.due("two hairs in the right one", few.hangs(0), 0);
-        HeadRows three = strip(9, 0);
+        HeadRows three = Heads.strip(9, 0);
         Check.drawn(three, "row 3 5 right 1 ;");
         Check.due("three in each", three.hangs(0), 190);
-        HeadRows two = strip(8, 3);
+        HeadRows two = Heads.strip(8, 3);
         Check.drawn(two, "row 3 5 right 1 ;");
         Check.due("the right one has two", two.hangs(0), 0);
     }

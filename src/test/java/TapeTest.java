@@ -11,12 +11,6 @@ public final class TapeTest {
         Check.end("TapeTest");
     }
 
-    private static void fault(String text, int kind, int place) {
-        HeadRows head = new HeadRows();
-        Check.due("fault of '" + text + "'", Check.draw(head, text), kind + 16 * place);
-        Check.due("nothing drawn by '" + text + "'", head.count(0) + head.count(1) + head.count(8), 0);
-    }
-
     private static void fine(String text) {
         Check.drawn(new HeadRows(), text);
     }
@@ -84,58 +78,58 @@ public final class TapeTest {
         fine("row0 0right1;");
         fine("row\n00\n00\nright01\n;\n");
         fine("part 0 0down1right1;row5 5up1;");
-        fault("rows 0 0 right 1 ;", 1, 0);
-        fault("row 0 0 righ 1 ;", 1, 8);
-        fault("row 0 0 rightright 1 ;", 1, 8);
-        fault("row 0 0 Right 1 ;", 1, 8);
-        fault("row 000 0 right 1 ;", 1, 4);
-        fault("row 0 0 right 1234567890123456789012345 ;", 1, 14);
-        fault("row 0 0 right 1 : ;", 1, 16);
-        fault("row 0 0 right 1;}", 1, 16);
-        fault("row 0-0 right 1 ;", 1, 5);
-        fault("rowx0 0 right 1 ;", 1, 0);
-        fault("rowz", 1, 0);
-        fault("arow", 1, 0);
-        fault("sow 0 0 right 1 ;", 1, 0);
-        fault("cart 0 0 right 1 ;", 1, 0);
-        fault("row 0 0 ap 1 ;", 1, 8);
-        fault("row 0 0 `up 1 ;", 1, 8);
-        fault("row 0 0 up{ 1 ;", 1, 10);
-        fault("row 0 0 up /1 ;", 1, 11);
-        fault("row 0 0 up :1 ;", 1, 11);
-        fault("row+ 0 0 right 1 ;", 1, 3);
-        fault("mirro ( ) ;", 1, 0);
-        fault("partpartpartpart", 1, 0);
+        Check.fault("rows 0 0 right 1 ;", 1, 0);
+        Check.fault("row 0 0 righ 1 ;", 1, 8);
+        Check.fault("row 0 0 rightright 1 ;", 1, 8);
+        Check.fault("row 0 0 Right 1 ;", 1, 8);
+        Check.fault("row 000 0 right 1 ;", 1, 4);
+        Check.fault("row 0 0 right 1234567890123456789012345 ;", 1, 14);
+        Check.fault("row 0 0 right 1 : ;", 1, 16);
+        Check.fault("row 0 0 right 1;}", 1, 16);
+        Check.fault("row 0-0 right 1 ;", 1, 5);
+        Check.fault("rowx0 0 right 1 ;", 1, 0);
+        Check.fault("rowz", 1, 0);
+        Check.fault("arow", 1, 0);
+        Check.fault("sow 0 0 right 1 ;", 1, 0);
+        Check.fault("cart 0 0 right 1 ;", 1, 0);
+        Check.fault("row 0 0 ap 1 ;", 1, 8);
+        Check.fault("row 0 0 `up 1 ;", 1, 8);
+        Check.fault("row 0 0 up{ 1 ;", 1, 10);
+        Check.fault("row 0 0 up /1 ;", 1, 11);
+        Check.fault("row 0 0 up :1 ;", 1, 11);
+        Check.fault("row+ 0 0 right 1 ;", 1, 3);
+        Check.fault("mirro ( ) ;", 1, 0);
+        Check.fault("partpartpartpart", 1, 0);
     }
 
     private static void places() {
-        fault("5", 1, 0);
-        fault("  ;", 1, 2);
-        fault("up 1 ;", 1, 0);
-        fault("row", 1, 3);
-        fault("row   ", 1, 6);
-        fault("row up 0 right 1 ;", 1, 4);
-        fault("row 0 right 1 ;", 1, 6);
-        fault("row 0 0 ;", 1, 8);
-        fault("row 0 0 part 1 ;", 1, 8);
-        fault("row 0 0 right 1 part ;", 1, 16);
-        fault("row 0 0 right ;", 1, 14);
-        fault("row 0 0 right 1 2 ;", 1, 16);
-        fault("row 0 0 right 1", 1, 15);
-        fault("row 0 0 right 1 row 1 1 right 1 ;", 1, 16);
-        fault("row 0 0 right 1 )", 1, 16);
-        fault("again 2 ( ) ;", 1, 8);
-        fault("again up 1 ( ) ;", 1, 6);
-        fault("again 2 up 1 right 1 ( ) ;", 1, 13);
-        fault("again 2 up 1 ;", 1, 13);
-        fault("mirror ;", 1, 7);
-        fault("mirror 2 ( ) ;", 1, 7);
-        fault("mirror ( )", 1, 10);
-        fault("mirror ( ) row 0 0 right 1 ;", 1, 11);
-        fault("mirror ( ", 1, 9);
-        fault(") ;", 1, 0);
-        fault("mirror ( ) ; ) ;", 1, 13);
-        fault("mirror ( ; ) ;", 1, 9);
+        Check.fault("5", 1, 0);
+        Check.fault("  ;", 1, 2);
+        Check.fault("up 1 ;", 1, 0);
+        Check.fault("row", 1, 3);
+        Check.fault("row   ", 1, 6);
+        Check.fault("row up 0 right 1 ;", 1, 4);
+        Check.fault("row 0 right 1 ;", 1, 6);
+        Check.fault("row 0 0 ;", 1, 8);
+        Check.fault("row 0 0 part 1 ;", 1, 8);
+        Check.fault("row 0 0 right 1 part ;", 1, 16);
+        Check.fault("row 0 0 right ;", 1, 14);
+        Check.fault("row 0 0 right 1 2 ;", 1, 16);
+        Check.fault("row 0 0 right 1", 1, 15);
+        Check.fault("row 0 0 right 1 row 1 1 right 1 ;", 1, 16);
+        Check.fault("row 0 0 right 1 )", 1, 16);
+        Check.fault("again 2 ( ) ;", 1, 8);
+        Check.fault("again up 1 ( ) ;", 1, 6);
+        Check.fault("again 2 up 1 right 1 ( ) ;", 1, 13);
+        Check.fault("again 2 up 1 ;", 1, 13);
+        Check.fault("mirror ;", 1, 7);
+        Check.fault("mirror 2 ( ) ;", 1, 7);
+        Check.fault("mirror ( )", 1, 10);
+        Check.fault("mirror ( ) row 0 0 right 1 ;", 1, 11);
+        Check.fault("mirror ( ", 1, 9);
+        Check.fault(") ;", 1, 0);
+        Check.fault("mirror ( ) ; ) ;", 1, 13);
+        Check.fault("mirror ( ; ) ;", 1, 9);
     }
 
     private static void numbers() {
@@ -143,25 +137,25 @@ public final class TapeTest {
         fine("row 15 11 up 1 ;");
         fine("part 0 0 right 16 ;");
         fine("again 9 up 16 ( ) ;");
-        fault("part 17 12 up 1 ;", 4, 5);
-        fault("part 16 13 up 1 ;", 4, 8);
-        fault("row 16 11 up 1 ;", 4, 4);
-        fault("row 15 12 up 1 ;", 4, 7);
-        fault("row 0 0 right 17 ;", 4, 14);
-        fault("row 0 0 right 1 down 99 ;", 4, 21);
-        fault("again 0 up 1 ( ) ;", 4, 6);
-        fault("again 10 up 1 ( ) ;", 4, 6);
-        fault("again 1 up 17 ( ) ;", 4, 11);
-        fault("part 17 13 nonsense", 4, 5);
+        Check.fault("part 17 12 up 1 ;", 4, 5);
+        Check.fault("part 16 13 up 1 ;", 4, 8);
+        Check.fault("row 16 11 up 1 ;", 4, 4);
+        Check.fault("row 15 12 up 1 ;", 4, 7);
+        Check.fault("row 0 0 right 17 ;", 4, 14);
+        Check.fault("row 0 0 right 1 down 99 ;", 4, 21);
+        Check.fault("again 0 up 1 ( ) ;", 4, 6);
+        Check.fault("again 10 up 1 ( ) ;", 4, 6);
+        Check.fault("again 1 up 17 ( ) ;", 4, 11);
+        Check.fault("part 17 13 nonsense", 4, 5);
     }
 
     private static void nested() {
         String open = "mirror ( again 2 up 1 ( mirror ( again 1 up 0 ( ";
         fine(open + ") ; ) ; ) ; ) ;");
         fine(open + ") ; ) ; ) ; mirror ( ) ; ) ; mirror ( ) ;");
-        fault(open + "mirror ( ) ; ) ; ) ; ) ; ) ;", 5, open.length());
-        fault(open + "again 0 ( ) ; ) ; ) ; ) ; ) ;", 5, open.length());
-        fault(open + "part again", 1, open.length() + 5);
-        fault(open + ") ; ) ; ) ; ", 1, open.length() + 12);
+        Check.fault(open + "mirror ( ) ; ) ; ) ; ) ; ) ;", 5, open.length());
+        Check.fault(open + "again 0 ( ) ; ) ; ) ; ) ; ) ;", 5, open.length());
+        Check.fault(open + "part again", 1, open.length() + 5);
+        Check.fault(open + ") ; ) ; ) ; ", 1, open.length() + 12);
     }
 }

@@ -11,15 +11,6 @@ public final class WorkTest {
         Check.end("WorkTest");
     }
 
-    /** A head without a hair: each row takes 2 minutes for each cell. */
-    private static HeadRows bald() {
-        HeadRows head = new HeadRows();
-        for (int cell = 0; cell < 192; cell++) {
-            head.cell(cell % 16, cell / 16, 0);
-        }
-        return head;
-    }
-
     private static void planned(HeadRows head, int time, int... hands) {
         Check.due("time", head.plan(0), time);
         Check.due("rows", head.plan(2), hands.length);
@@ -29,7 +20,7 @@ public final class WorkTest {
     }
 
     private static void work() {
-        HeadRows head = bald();
+        HeadRows head = Heads.bald();
         Check.due("no row", head.work(0), HeadRows.NONE);
         head.cell(0, 0, 19);
         Check.drawn(head, "row 0 0 right 2 ;");
@@ -43,7 +34,7 @@ public final class WorkTest {
     }
 
     private static void hands() {
-        HeadRows head = bald();
+        HeadRows head = Heads.bald();
         Check.drawn(head, "row 0 0 right 5 ; row 0 1 right 5 ; row 0 2 right 5 ;");
         planned(head, 36, 0, 0, 0);
         Check.due("1 1 1", head.hands(1, 1, 1), true);
@@ -66,7 +57,7 @@ public final class WorkTest {
     }
 
     private static void plans() {
-        HeadRows head = bald();
+        HeadRows head = Heads.bald();
         planned(head, 0);
         Check.drawn(head, "row 0 0 right 4 ; row 0 1 right 2 ; row 0 2 right 2 ; row 0 3 right 1 ;");
         planned(head, 26, 0, 0, 0, 0);
@@ -81,7 +72,7 @@ public final class WorkTest {
     }
 
     private static void speeds() {
-        HeadRows head = bald();
+        HeadRows head = Heads.bald();
         Check.drawn(head, "row 0 0 right 4 ; row 0 1 right 2 ; row 0 2 right 2 ; row 0 3 right 1 ;");
         // 10, 6, 6, 4 minutes: at speed 3 they take 4, 2, 2, 2.
         head.hands(3, 0, 0);
@@ -95,24 +86,13 @@ public final class WorkTest {
     private static void sittings() {
         int[][] due = {{2, 4}, {29, 58}, {30, 60}, {31, 72}, {60, 130}, {61, 142}, {90, 200}, {91, 212}};
         for (int[] cells : due) {
-            HeadRows head = bald();
-            StringBuilder row = new StringBuilder("row 0 0");
-            int left = cells[0] - 1;
-            for (int line = 0; left > 0; line++) {
-                int far = Math.min(left, 15);
-                row.append(line % 2 == 0 ? " right " : " left ").append(far);
-                left -= far;
-                if (left > 0) {
-                    row.append(" down 1");
-                    left--;
-                }
-            }
-            Check.drawn(head, row + " ;");
+            HeadRows head = Heads.bald();
+            Check.drawn(head, Heads.snake(cells[0]));
             Check.due("time", head.plan(0), 2 * cells[0]);
             Check.due("sitting of " + cells[0] + " cells", head.plan(1), cells[1]);
         }
         Check.due("sitting of nothing", new HeadRows().plan(1), 0);
-        HeadRows odd = bald();
+        HeadRows odd = Heads.bald();
         odd.cell(0, 0, 10);
         Check.drawn(odd, "row 0 0 right 15 down 1 left 13 ;");
         Check.due("time", odd.plan(0), 61);
@@ -120,7 +100,7 @@ public final class WorkTest {
     }
 
     private static void firstEight() {
-        HeadRows head = bald();
+        HeadRows head = Heads.bald();
         Check.drawn(head, "again 5 right 2 ( again 2 down 2 ( row 0 0 down 1 ; ) ; ) ;");
         Check.due("rows", head.count(1), 10);
         Check.due("rows in it", head.plan(2), 8);
@@ -130,7 +110,7 @@ public final class WorkTest {
     }
 
     private static void leftOut() {
-        HeadRows head = bald();
+        HeadRows head = Heads.bald();
         Check.drawn(head, "row 0 0 right 1 ; row 0 1 right 2 ;");
         head.done();
         planned(head, 0);

@@ -8,15 +8,23 @@ final class Check {
 
     private static int wrong = 0;
     private static int made = 0;
+    private static int edges = 0;
+    private static String sentence = "";
 
     private Check() {
+    }
+
+    /** What is looked at from here on is asked by this sentence of the document, quoted as it stands there. */
+    static void edge(String quote) {
+        edges++;
+        sentence = "[" + quote + "] ";
     }
 
     static void due(String call, long got, long want) {
         made++;
         if (got != want) {
             wrong++;
-            System.out.println(call + " answered " + got + ", due is " + want);
+            System.out.println(sentence + call + " answered " + got + ", due is " + want);
         }
     }
 
@@ -51,6 +59,39 @@ final class Check {
         due("draw of " + text, draw(head, text), 0);
     }
 
+    /** A program without a fault that is not drawn: the reason, and how many were drawn ahead. */
+    static void cannot(HeadRows head, String text, int reason, int ahead) {
+        int partings = head.count(0);
+        int rows = head.count(1);
+        int programs = head.count(8);
+        due("draw of " + text, draw(head, text), -1 - (reason + 16 * ahead));
+        due("partings behind " + text, head.count(0), partings);
+        due("rows behind " + text, head.count(1), rows);
+        due("programs behind " + text, head.count(8), programs);
+    }
+
+    /** A program with a fault, on a head of its own. */
+    static void fault(String text, int kind, int place) {
+        HeadRows head = new HeadRows();
+        due("fault of '" + text + "'", draw(head, text), kind + 16 * place);
+        due("drawn or kept by '" + text + "'", head.count(0) + head.count(1) + head.count(8), 0);
+        due("tape behind '" + text + "'", head.count(11), 0);
+    }
+
+    /** The cells of a row, and that it has no more. */
+    static void row(HeadRows head, int row, int... cells) {
+        for (int step = 0; step < cells.length; step++) {
+            due("row " + row + " step " + step, head.row(row, step), cells[step]);
+        }
+        due("row " + row + " has no more", head.row(row, cells.length), HeadRows.NONE);
+    }
+
+    static void weights(HeadRows head, int row, int step, int left, int middle, int right) {
+        due("left of " + row + " at " + step, head.strand(row, step, 0), left);
+        due("middle of " + row + " at " + step, head.strand(row, step, 1), middle);
+        due("right of " + row + " at " + step, head.strand(row, step, 2), right);
+    }
+
     static long eight(String text, int from) {
         long packed = 0;
         for (int n = from; n < from + 8; n++) {
@@ -60,7 +101,8 @@ final class Check {
     }
 
     static void end(String test) {
-        System.out.println(test + ": " + made + " answers looked at, " + wrong + " not as due");
+        String of = edges > 0 ? " for " + edges + " sentences" : "";
+        System.out.println(test + ": " + made + " answers looked at" + of + ", " + wrong + " not as due");
         if (wrong > 0 || made == 0) {
             System.exit(1);
         }

@@ -625,6 +625,16 @@ public final class BraidEdgesTest {
         Check.due("joins", head.count(7), 0);
         Check.due("not joined by that", head.join(2, 1, 0), 1);
         Check.due("no row at all", new HeadRows().join(0, 1, 2), HeadRows.NONE);
+        // No row is near to where none is: beside cell 0.
+        HeadRows corner = new HeadRows();
+        Check.drawn(corner, "row 1 0 left 1 ; row 1 1 left 1 ;");
+        for (int row : none) {
+            Check.due("no such row", corner.join(0, 1, row), HeadRows.NONE);
+            Check.due("no such row", corner.join(0, row, 1), HeadRows.NONE);
+            Check.due("no such row", corner.join(row, 0, 1), HeadRows.NONE);
+            Check.due("no such two rows", corner.join(row, 2, 1), HeadRows.NONE);
+        }
+        Check.due("joins", corner.count(7), 0);
     }
 
     private static void nineHairs() {

@@ -26,6 +26,7 @@ public final class DrawEdgesTest {
         sideTwice();
         sideOfAnother();
         cornerOnParting();
+        cornerAtTheBorder();
         cornerTwice();
         firstReason();
         regions();
@@ -270,6 +271,13 @@ public final class DrawEdgesTest {
         Check.due("loose", head.taken(4, 5), -2);
         Check.due("row 0", head.row(0, 3), 3);
         Check.due("row 0 is out", head.isOut(0), 1);
+        // The first side and the first cell, too.
+        HeadRows first = new HeadRows();
+        Check.drawn(first, "part 1 0 left 1 down 1 ; row 0 0 right 1 ; part 16 12 left 1 up 1 ; row 15 11 up 1 ;");
+        Check.due("takeBack", first.takeBack(), 4);
+        Check.due("sides", first.side(0, 0, 0) + first.side(0, 0, 2) + first.side(15, 11, 1) + first.side(14, 11, 3), 0);
+        Check.due("rows", first.look(0, 0, 2) + first.look(15, 11, 2), 2 * HeadRows.NONE);
+        Check.drawn(first, "row 15 11 up 1 ; part 16 12 left 1 up 1 ; part 1 0 left 1 down 1 ; row 0 0 right 1 ;");
         // A row of the same number and place was never done.
         Check.drawn(head, "row 4 5 right 3 ;");
         Check.due("never done", head.isOut(1), 0);
@@ -467,6 +475,29 @@ public final class DrawEdgesTest {
         }
         Check.due("takeBack", ends.takeBack(), 4);
         Check.drawn(ends, "again 4 right 3 ( part 2 3 right 2 ; ) ;");
+    }
+
+    // A corner at one end of the net is not on a parting at the other end, of its own line or the next.
+    private static void cornerAtTheBorder() {
+        Check.edge("a CORNER of it but its first and its last is on a PARTING");
+        String[] ends = {"again 9 down 1 ( part 16 1 left 1 ; ) ; again 2 down 1 ( part 16 10 left 1 ; ) ;",
+            "again 9 down 1 ( part 0 1 right 1 ; ) ; again 2 down 1 ( part 0 10 right 1 ; ) ;",
+            "again 9 right 1 ( part 1 11 down 1 ; ) ; again 6 right 1 ( part 10 11 down 1 ; ) ;",
+            "again 9 right 1 ( part 1 0 down 1 ; ) ; again 6 right 1 ( part 10 0 down 1 ; ) ;",
+            "part 0 12 right 16 ;", "part 0 0 right 16 ;", "part 16 0 down 12 ;", "part 0 0 down 12 ;"};
+        String[] borders = {"part 0 0 down 12 ;", "part 16 0 down 12 ;", "part 0 0 right 16 ;", "part 0 12 right 16 ;"};
+        int[] free = {0, 1, 2, 3, 2, 3, 0, 1};
+        for (int n = 0; n < ends.length; n++) {
+            HeadRows head = new HeadRows();
+            Check.drawn(head, ends[n]);
+            Check.drawn(head, borders[free[n]]);
+            Check.due("takeBack of the border", head.takeBack(), 1);
+            Check.drawn(head, borders[free[n]].replace(";", "up 0 ;"));
+            HeadRows other = new HeadRows();
+            Check.drawn(other, ends[n]);
+            boolean isSide = n > 3;
+            Check.cannot(other, borders[free[n] ^ 1], isSide ? 3 : 4, 0);
+        }
     }
 
     private static void cornerTwice() {

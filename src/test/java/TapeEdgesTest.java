@@ -266,6 +266,16 @@ public final class TapeEdgesTest {
         Check.drawn(head, "again 1 up 1 ( row 3 3 up 1 ; ) ;");
         Check.drawn(head, "again 1 up 1 ( row 3 5 up 1 ; row 3 7 up 1 ; part 0 0 up 0 right 1 ; ) ;");
         Check.due("drawn", head.count(0) + head.count(1), 4);
+        // Brackets without a step stand between others and change nothing.
+        HeadRows between = new HeadRows();
+        Check.drawn(between, "mirror ( ) ; row 3 3 up 1 ; again 2 up 1 ( ) ; row 5 3 up 1 ; mirror ( mirror ( ) ; ) ;");
+        Check.row(between, 0, 51, 35);
+        Check.row(between, 1, 53, 37);
+        Check.drawn(between, "again 2 right 2 ( mirror ( ) ; row 0 8 down 1 ; again 3 up 1 ( ) ; part 0 7 right 1 ; ) ; row 9 9 up 1 ;");
+        Check.row(between, 2, 128, 144);
+        Check.row(between, 3, 130, 146);
+        Check.row(between, 4, 153, 137);
+        Check.due("partings", between.count(0), 2);
         Check.fault("again 2 ( ) ;", 1, 8);
         Check.fault("again 2 up 1 up 1 ( ) ;", 1, 13);
         Check.fault("again 2 up 1 ) ;", 1, 13);

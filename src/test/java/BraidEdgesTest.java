@@ -709,6 +709,15 @@ public final class BraidEdgesTest {
                 Check.isNone("step " + step, () -> head.strand(0, step, of));
             }
         }
+        HeadRows two = new HeadRows();
+        Check.drawn(two, "row 3 5 right 1 ; row 3 7 right 1 ;");
+        for (int what = 0; what < 6; what++) {
+            int of = what;
+            Check.isNone("ahead of the second row", () -> two.strand(1, -1, of));
+            Check.isNone("behind the first row", () -> two.strand(0, 2, of));
+        }
+        Check.due("added ahead of the second row", two.added(1, -1, 1, 100), HeadRows.NONE);
+        Check.due("added behind the first row", two.added(0, 2, 1, 100), HeadRows.NONE);
         int[] whats = {Integer.MIN_VALUE, -1, 6, 7, Integer.MAX_VALUE};
         for (int what : whats) {
             Check.isNone("what " + what, () -> head.strand(0, 0, what));

@@ -773,7 +773,8 @@ public final class DrawEdgesTest {
         Check.drawn(head, "row 3 3 right 2 ; row 0 0 down 1 ;");
         Check.row(head, 0, 51, 52, 53);
         Check.row(head, 1, 0, 16);
-        int[][] none = {{-1, 0}, {2, 0}, {0, -1}, {0, 3}, {1, 2}, {0, 200}, {24, 0}, {Integer.MIN_VALUE, 0},
+        // A step ahead of the first is not the last one of the row ahead.
+        int[][] none = {{-1, 0}, {2, 0}, {0, -1}, {1, -1}, {1, -2}, {0, 3}, {1, 2}, {0, 200}, {24, 0}, {Integer.MIN_VALUE, 0},
             {0, Integer.MIN_VALUE}, {Integer.MAX_VALUE, Integer.MAX_VALUE}};
         for (int[] at : none) {
             Check.due("row " + at[0] + " " + at[1], head.row(at[0], at[1]), HeadRows.NONE);
